@@ -920,11 +920,11 @@ public final class HowDeep {
             return sum;
         }
 
-        /** What water in a YARD is worth, all coins that are lost being taken from it. */
+        /** What water in a YARD is worth, coins that are lost being taken from it: 0 at least ahead of them, too. */
         private long gain(int yard, int worth, int lost) {
             long sum = 0;
             for (int j = 0; j < ground.layers; j++) {
-                sum += wetOf(yard, j) * Math.max(0, ground.goodOf(j, worth) - lost);
+                sum += wetOf(yard, j) * Math.max(0, worth - ground.salts[j] - lost);
             }
             return sum;
         }

@@ -35,6 +35,14 @@ public final class BoresTest {
         Due.place(y, 1, 1);
         y.set(1, 5);
         Due.is("bore: water is worth less than what is spent", y.bore(0, 5), 0);
+        HowDeep z = new HowDeep();
+        for (int j = 0; j < 2; j++) z.layer(100 * j, 0, 0);
+        Due.law(z, "cost 10;water base*(yard=5);fall 0;");
+        Due.place(z, 1, 1);
+        z.set(0, 5);
+        // without a BORE: 5 YARDS for 100 in the end; by one of 5: 200 less 50 by half, else nothing
+        Due.is("bore: only the last YARD tells", z.bore(0, 5), 500000L * 150 - 50000000);
+        Due.is("far: to the last YARD", z.far(0, 0), 5);
     }
 
     private static void diviners() {
@@ -54,6 +62,21 @@ public final class BoresTest {
         Due.is("diviner: 58", x.diviner(0, 58), 0);
         Due.is("diviner: 50", x.diviner(0, 50), 0);
         Due.is("believe: 59", x.believe(0), 59);
+        HowDeep w = new HowDeep();
+        w.layer(20, 0, 0);
+        Due.law(w, "cost 3;water base;fall 0;");
+        Due.place(w, 1);
+        w.set(0, 1);
+        w.set(1, 20);
+        Due.is("believe: 59 of smaller coins", w.believe(0), 59);
+        HowDeep z = new HowDeep();
+        z.layer(99, 0, 0);
+        Due.law(z, "cost 100;water base;fall 0;");
+        Due.place(z, 1);
+        z.set(0, 1);
+        Due.is("diviner: 99 of 99", z.diviner(0, 99), 0);
+        Due.is("diviner: 100 of 99", z.diviner(0, 100), 1000000);
+        Due.is("believe: 100", z.believe(0), 100);
         x.set(1, 100);
         // W 20, C 30, G -10, N 0, Q 1/5: NO of 50 is 10 - 15 coins, YES as much
         Due.is("diviner: G 0 at least", x.diviner(0, 100), 14000000);

@@ -43,6 +43,18 @@ public final class FarmsTest {
         Due.is("share: six steps", x.share(3, 1), 6);
         Due.is("share: by NEEDS", x.share(7, 0), 50);
         Due.is("share: 40 and 46", x.share(7, 1), 86);
+        Due.is("share: the first alone", x.share(1, 0), 10);
+        HowDeep y = new HowDeep();
+        y.farm(50, 5);
+        y.farm(4, 1);
+        y.farm(10, 1);
+        Due.is("share: the first by NEEDS", y.share(7, 0), 50);
+        Due.is("share: of like ones the least, whichever came first", y.share(6, 0), 4);
+        HowDeep z = new HowDeep();
+        z.farm(0, 9);
+        z.farm(5, 1);
+        Due.is("share: at 0", z.share(3, 0), 0);
+        Due.is("share: five steps to 0", z.share(3, 1), 5);
     }
 
     private static int join(HowDeep x, int... parts) {
@@ -66,6 +78,7 @@ public final class FarmsTest {
         Due.is("join: -1", join(x, 1, -1), HowDeep.BAD);
         Due.is("join: 1000000", join(x, 1000000, 1), HowDeep.BAD);
         Due.is("join: 999999", join(x, 999999, 1), 1);
+        Due.is("join: 0", join(x, 0, 0), 3);
         Due.is("join: the first would rather dig alone", join(x, 13, 5), 1);
         Due.is("join: the second", join(x, 12, 13), 2);
         Due.is("join: the least set of two", join(x, 13, 13), 1);
@@ -78,6 +91,9 @@ public final class FarmsTest {
         Due.is("join: all of them pay too little", join(y, 6, 5), 3);
         Due.sheet(y, 0, 2, 15, 15);
         Due.is("join: two YARDS", y.join(0, 2), -1);
+        Due.sheet(y, 0, 2, 100, 60);
+        Due.is("join: five YARDS", y.join(0, 5), -1);
+        Due.sheet(y, 0, 2, 15, 15);
         y.set(0, 1);
         Due.is("join: beyond DEEPEST", y.join(0, 2), -1);
         y.farm(9, 2);
@@ -117,6 +133,17 @@ public final class FarmsTest {
         y.set(1, 30);
         // as it is 7.5 - 10; behind SIGN 0 15 - 10, by a quarter
         Due.is("learn: one may hope", y.learn(0), 1250000);
+        Due.law(y, "cost 10;water base*(yard=2)*2;fall 0;");
+        // YARD 1 tells of LAYERS by half each, and has no water: two coins of a hundred
+        y.set(0, 2);
+        y.set(1, 100);
+        // as it is: -10 + 1/2 (100 - 10) = 35; LAYER 0: 80, LAYER 1: 0
+        Due.is("learn: by the WATER of YARD 1", y.learn(0), 500000L * 45 - 500000L * 35);
+        HowDeep z = PlacesTest.plain();
+        z.set(0, 1);
+        for (int p = 0; p < 4; p++) Due.place(z, 1, 1);
+        for (int p = 1; p < 4; p++) z.ties(0, p, 100);
+        Due.is("learn: of three others", z.learn(0), -22500000);
     }
 
     private static void firsts() {
@@ -221,6 +248,20 @@ public final class FarmsTest {
         Due.place(y, 0, 1);
         y.rule(1, 4, 0);
         Due.is("drawn: by the last SEED", y.drawn(0, 0, 99999, 0) > 0 ? 1 : 0, 1);
+        HowDeep z = new HowDeep();
+        z.layer(72, 0, 0);
+        z.layer(94, 0, 1);
+        Due.law(z, "cost yard;water base;fall 0;");
+        Due.place(z, 0, 1);
+        z.set(0, 5);
+        z.rule(1, 5, 0);
+        // by a LOT LAYER 1, though there is no other; then 94, and 86
+        drawn(z, 0, 0, 3, 2, 2);
+        z.follow(1, 0, 1);
+        // by a LOT again LAYER 0: 37
+        drawn(z, 0, 0, 3, 2, 2);
+        Due.law(z, "cost yard;water 0;fall 0;");
+        drawn(z, 0, 0, 15, -1, 5);
         cantBe();
     }
 
@@ -279,9 +320,31 @@ public final class FarmsTest {
         Due.is("undo: the SHEET stays", x.sheet(0, -1, 0), 1);
         Due.is("undo: again", x.undo(), 2);
         Due.is("undo: TIES again", x.ties(0, 1, 0), 33);
+        x.fill(0);
+        x.dig(0, 2);
+        Due.is("undo: once more", x.undo(), 2);
+        Due.is("undo: the SIGN that was there", x.told(0, 2), 0);
+        x.fill(0);
+        x.dig(0, 2);
+        x.ties(0, 1, 7);
         x.image();
+        x.fill(0);
+        x.dig(0, 1);
+        x.ties(0, 1, 8);
         x.undo();
-        Due.is("image: a later one counts", x.ties(0, 1, 0), 0);
+        Due.is("image: a later one counts", x.ties(0, 1, 0), 7);
+        Due.is("image: its SIGN", x.told(0, 2), 2);
+        HowDeep y = new HowDeep();
+        for (int j = 0; j < 5; j++) y.layer(1, 1, 1);
+        y.follow(4, 4, 9);
+        for (int p = 0; p < 4; p++) Due.place(y, 1, 1, 1, 1, 1);
+        y.ties(3, 2, 99);
+        Due.is("image: all PLACES", y.image(), 4);
+        y.follow(4, 4, 8);
+        y.ties(2, 3, 98);
+        Due.is("undo: all PLACES", y.undo(), 4);
+        Due.is("undo: the last LAYER", y.follow(4, 4, 0), 9);
+        Due.is("undo: the last PLACE", y.ties(2, 3, 0), 99);
     }
 
     private static void sinceThen() {

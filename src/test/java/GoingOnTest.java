@@ -40,7 +40,9 @@ public final class GoingOnTest {
         Due.is("best: water is worth too little", x.best(0), 0);
         x.set(1, 20);
         x.dig(0, 0);
+        x.rule(3, 0, 0);
         Due.is("back: 0 is not above 0", x.back(0), 0);
+        Due.is("goesBy: BEST stops at 0", x.goesBy(0, 0), 0);
         HowDeep y = new HowDeep();
         y.layer(100, 9, 0);
         Due.law(y, "cost 0;water base;fall 0;");
@@ -176,6 +178,13 @@ public final class GoingOnTest {
         Due.is("mean: RUIN of all that is dry", z.mean(1, 0, 2), 625000);
         z.dig(0, 3);
         Due.is("mean: as if nothing was dug", z.mean(0, 0, 0), 17500000);
+        HowDeep s = new HowDeep();
+        s.layer(100, 9, 0);
+        Due.place(s, 1);
+        s.rule(1, 1, 0);
+        Due.is("mean: GOOD less SALT", s.mean(0, 0, 3), 191000000);
+        s.set(1, 5);
+        Due.is("mean: GOOD 0 at least", s.mean(0, 0, 3), 0);
     }
 
     private static void mean(HowDeep x, int kind, int more, int stops, long spent, long water, long good) {

@@ -34,6 +34,9 @@ public final class GroundTest {
         Due.is("layer: SIGN 3", x.layer(0, 0, 3), HowDeep.BAD);
         Due.is("layer: refused ones do not count", x.count(5), 0);
         Due.is("layer: least", x.layer(0, 0, 0), 0);
+        HowDeep one = new HowDeep();
+        one.layer(30, 0, 0);
+        Due.is("layer: its WATER at once", one.asks(1, 1, 0, 0), 30);
         Due.is("layer: most", x.layer(100, 9, 2), 1);
         Due.is("layer: its WATER", x.asks(1, 1, 1, 0), 100);
         Due.place(x, 1, 1);
@@ -68,6 +71,9 @@ public final class GroundTest {
         x.dig(0, 0);
         Due.is("follow: 1 of 4 stay", x.think(0, 0), 250000);
         Due.is("follow: 3 of 4 lie below", x.think(0, 1), 750000);
+        x.follow(0, 0, 0);
+        x.follow(0, 1, 1);
+        Due.is("follow: 1 of 1 lies below", x.think(0, 1), 1000000);
     }
 
     private static void settings() {

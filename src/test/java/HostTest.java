@@ -17,6 +17,8 @@ public final class HostTest {
         Due.is("sheet: sort 3", x.sheet(0, 3, 1), HowDeep.BAD);
         Due.is("sheet: 41", x.sheet(0, 2, 41), HowDeep.BAD);
         Due.is("sheet: size -1", x.sheet(0, 2, -1), -14);
+        Due.is("sheet: 41 bytes", x.sheet(0, 0, 41), HowDeep.BAD);
+        Due.is("sheet: -1 bytes", x.sheet(0, 0, -1), -14);
         Due.is("sheet: BAD ahead of -14", x.sheet(4, 2, -1), HowDeep.BAD);
         Due.is("sheet: none came", x.cell(0, 0, 0), -11);
         for (int s = 0; s < 4; s++) Due.is("sheet: came", x.sheet(s, s % 3, 40), 1);
@@ -115,6 +117,8 @@ public final class HostTest {
         Due.is("layersBy: three, one is left out", x.layersBy(0, 1, 0, 3), 2);
         Due.is("layersBy: BASE of the second that came", x.taken(1, 6), 30);
         Due.is("layersBy: its WATER", x.asks(1, 1, 1, 0), 30);
+        Due.law(x, "cost 0;water salt;fall 0;");
+        Due.is("layersBy: its SALT", x.asks(1, 1, 1, 0), 3);
         Due.is("layersBy: part of the fourth is outside", x.layersBy(0, 1, 6, 2), -12);
         Due.is("layersBy: what stood ahead came", x.count(5), 3);
         Due.sheet(x, 1, 0, 1, 1, 1, 2, 2, 2, 3, 3, 2, 4, 4, 2);

@@ -48,6 +48,12 @@ public final class LawTest {
         Due.is("text: a FAULT", Due.text(y, "cost"), -104);
         Due.is("text: THE TAPE is empty by a FAULT, too", y.count(11), 0);
         Due.is("text: no text by a FAULT", y.count(9), 1);
+        String eight = "1+1+1+1+1+1+1+1+";
+        String most = "cost " + eight.repeat(7) + "1;water 1;fall 1;";
+        for (int turn = 0; turn < 9; turn++) Due.is("text: a long FAULT", Due.text(y, most + "#"), -100 - most.length());
+        Due.law(y, most);
+        Due.is("text: long ones", y.asks(0, 1, 0, 0), 57);
+        Due.is("text: its WATER is 0, for there is no LAYER; its FALL", y.asks(2, 1, 0, 0), 1);
     }
 
     private static void fault(String s, int place) {
@@ -72,6 +78,10 @@ public final class LawTest {
         fault("cost yards;water 1;fall 1;", 5);
         fault("cost yar;water 1;fall 1;", 5);
         fault("costs 1;water 1;fall 1;", 0);
+        fault("most 1;water 1;fall 1;", 0);
+        fault("cost nard;water 1;fall 1;", 5);
+        fault("cost yardz;water 1;fall 1;", 5);
+        fault("cost - x 1;water 1;fall 1;", 7);
         fault("cost seasonal;water 1;fall 1;", 5);
         fault("cost Yard;water 1;fall 1;", 5);
         fault("cost 1 # 2;water 1;fall 1;", 7);
@@ -179,6 +189,7 @@ public final class LawTest {
         cost("7 or 0", 1);
         cost("0 or 0", 0);
         cost("7 and 2", 1);
+        cost("1 and 1", 1);
         cost("7 and 0", 0);
         cost("not 7", 0);
         cost("not 0", 1);

@@ -146,6 +146,9 @@ public final class PlacesTest {
         Due.is("likely: behind water as of what was dry", x.likely(0), 500000);
         Due.is("think: behind water, too", x.think(0, 0), 1000000);
         x.fill(0);
+        for (int y = 0; y < 4; y++) x.dig(0, 0);
+        Due.is("likely: the last YARD", x.likely(0), 500000);
+        x.fill(0);
         for (int y = 0; y < 5; y++) x.dig(0, 1);
         Due.is("think: of a sixth YARD", x.think(0, 1), 1000000);
     }
@@ -195,6 +198,17 @@ public final class PlacesTest {
         x.dig(0, 3);
         Due.is("judge: whatever is DUG", x.judge(0, 0), -1);
         Due.is("row: whatever is DUG", x.row(0, 0), 500000);
+        Due.place(x, 1, 0);
+        x.think(1, 0);
+        Due.is("judge: whatever was asked ahead", x.judge(0, 0), -1);
+        x.think(1, 0);
+        Due.is("row: whatever was asked ahead", x.row(0, 0), 500000);
+        HowDeep y = new HowDeep();
+        y.layer(0, 0, 2);
+        Due.place(y, 1);
+        Due.sheet(y, 0, 1, 2, 2);
+        Due.is("judge: SIGN 2", y.judge(0, 0), -1);
+        Due.is("row: SIGN 2", y.row(0, 0), 1000000);
     }
 
     private static void told(HowDeep x, int wrong, long parts, int... signs) {
