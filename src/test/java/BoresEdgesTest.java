@@ -12,6 +12,7 @@ public final class BoresEdgesTest {
         divinerBounds();
         divinerNothing();
         divinerCut();
+        divinerCutApart();
         divinerLeast();
         greatest();
         believeFirst();
@@ -222,6 +223,17 @@ public final class BoresEdgesTest {
         Due.is("diviner: 50", x.diviner(0, 50), -1);
         Due.is("diviner: 100", x.diviner(0, 100), 0);
         Due.is("believe: never above 0", x.believe(0), -1);
+    }
+
+    /** W 166666 and N 83333 are cut one by one: by 51 of 100 to 84999 and 40833, by 49 to 81666 and 42499; G is 249999. */
+    private static void divinerCutApart() {
+        HowDeep x = PlacesTest.plain();
+        Due.law(x, "cost 0;water base;fall 0;");
+        Due.place(x, 1, 2);
+        x.set(0, 2);
+        x.set(1, 1);
+        Due.is("diviner: G", x.best(0), 249999);
+        Due.is("diviner: 51", x.diviner(0, 51), 84999 + 40833 + 81666 + 42499 - 249999);
     }
 
     /** W 20122180, C 12 coins, Q 837776: YES of 55 is 4661868, NO 3460313, G 8122180. */

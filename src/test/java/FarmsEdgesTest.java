@@ -234,6 +234,16 @@ public final class FarmsEdgesTest {
         Due.place(x, 1, 2);
         x.ties(0, 1, 100);
         Due.is("learn: cut", x.learn(0), 11111155 - 15555451);
+        HowDeep y = new HowDeep();
+        y.layer(90, 0, 0);
+        y.layer(0, 0, 0);
+        Due.law(y, "cost 0;water base;fall 0;");
+        Due.place(y, 1, 3);
+        Due.place(y, 1, 2);
+        y.ties(0, 1, 70);
+        y.set(0, 1);
+        // 25000 of 775000 are 32258; (333333 * 30 and 32258 * 70) by 100 are 122580, which are wet by 110322
+        Due.is("learn: cut as one sum", y.learn(0), (110322 - 299999) * 200L * 775 / 1000);
     }
 
     // ---- promise 38: of like ones the first; -1: there is none
@@ -368,7 +378,7 @@ public final class FarmsEdgesTest {
         Due.is("drawn: and is not less than 71", w.drawn(0, 0, 0, 1), -1);
     }
 
-    /** It ends where HOW MUCH is 0, and where the RULE stops or DEEPEST is reached. */
+    /** It ends where the RULE stops or DEEPEST is reached; where HOW MUCH is 0, as FarmsTest shows. */
     private static void drawnEnds() {
         HowDeep x = new HowDeep();
         x.layer(0, 0, 0);
@@ -522,5 +532,16 @@ public final class FarmsEdgesTest {
         Due.is("undo: what is DUG there", x.told(1, 0), 1);
         Due.is("undo: its SIGN", x.told(1, 2), 1);
         Due.is("undo: what was DUG at the other one", x.told(0, 0), 1);
+        Due.is("undo: TIES with one that came are alike either way", tiesBehindUndo(0, 1), tiesBehindUndo(1, 0));
+    }
+
+    private static int tiesBehindUndo(int p, int q) {
+        HowDeep x = PlacesTest.plain();
+        Due.place(x, 1, 2);
+        x.image();
+        Due.place(x, 2, 1);
+        x.ties(0, 1, 40);
+        x.undo();
+        return x.ties(p, q, 0);
     }
 }

@@ -23,6 +23,7 @@ public final class GoingOnEdgesTest {
         ruin();
         howFar();
         meanOfHardly();
+        meanCut();
         rightBounds();
         Due.end("GoingOnEdgesTest");
     }
@@ -472,6 +473,21 @@ public final class GoingOnEdgesTest {
         Due.is("hardly: SPENT by three", x.mean(1, 0, 0), 989999 * 30 + 10001 * 30);
         x.set(3, 29);
         Due.is("hardly: RUIN by three", x.mean(1, 0, 2), 10001);
+    }
+
+    /** 333333 by half are 166666 of each LAYER, and times 999999 by 1000000 are 166665. */
+    private static void meanCut() {
+        HowDeep x = new HowDeep();
+        for (int j = 0; j < 3; j++) x.layer(50, 0, 0);
+        Due.law(x, "cost 10;water base*(1<yard);fall 0;");
+        Due.place(x, 1, 1, 1);
+        x.rule(1, 2, 0);
+        x.set(3, 19);
+        Due.is("cut: WATER", x.mean(0, 0, 1), 3 * 166665);
+        // 999999 * 500001 by 1000000 are left
+        Due.is("cut: RUIN", x.mean(0, 0, 2), 500000);
+        Due.is("cut: SPENT", x.mean(0, 0, 0), 3 * 166665 * 20 + 500000 * 20);
+        Due.is("cut: GOOD", x.mean(0, 0, 3), 3 * 166665 * 200);
     }
 
     // ---- promise 26: of like ones the first; -1: there is none; -5
