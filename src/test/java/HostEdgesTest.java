@@ -145,11 +145,16 @@ public final class HostEdgesTest {
         }
     }
 
-    private static void copyPlaces() {
+    private static HowDeep fiveAndSeven() {
         HowDeep x = new HowDeep();
         x.sheet(0, 2, 5);
         x.sheet(1, 2, 7);
+        return x;
+    }
+
+    private static void copyPlaces() {
         for (int i = -2; i <= 9; i++) {
+            HowDeep x = fiveAndSeven();
             for (int j = -2; j <= 9; j++) {
                 for (int n = -2; n <= 8; n++) {
                     boolean inside = i >= 0 && j >= 0 && n >= 0 && i + n <= 5 && j + n <= 7;
@@ -157,6 +162,7 @@ public final class HostEdgesTest {
                 }
             }
         }
+        HowDeep x = fiveAndSeven();
         int[] far = {Integer.MIN_VALUE, Integer.MIN_VALUE + 1, -256, 256, 65536, Integer.MAX_VALUE - 1, Integer.MAX_VALUE};
         for (int v : far) {
             Due.is("copy: i " + v, x.copy(0, v, 1, 0, 1), -12);

@@ -12,6 +12,20 @@ public final class RoomTest {
         HowDeep x = new HowDeep();
         long one = BEAN.getThreadAllocatedBytes(self) - before;
         Due.holds("an object takes little: " + one, one > 0 && one < 60000);
+        HowDeep[] all = new HowDeep[4];
+        for (int i = 0; i < all.length; i++) {
+            all[i] = new HowDeep();
+            fill(all[i]);
+            dearest(all[i]);
+        }
+        before = BEAN.getThreadAllocatedBytes(self);
+        for (int turn = 0; turn < 10; turn++) for (HowDeep each : all) dearest(each);
+        long made = BEAN.getThreadAllocatedBytes(self) - before;
+        Due.holds("800 calls make next to nothing: " + made, made < 4096);
+        Due.end("RoomTest");
+    }
+
+    private static void fill(HowDeep x) {
         for (int j = 0; j < 5; j++) x.layer(20 * j, j, j % 3);
         for (int i = 0; i < 5; i++) for (int j = 0; j < 5; j++) x.follow(i, j, (i + j) % 7);
         x.set(0, 5);
@@ -19,12 +33,6 @@ public final class RoomTest {
         x.ties(0, 1, 50);
         for (int r = 0; r < 8; r++) x.rule(3, 5, 0);
         for (int f = 0; f < 6; f++) x.farm(f * 9, f + 1);
-        dearest(x);
-        before = BEAN.getThreadAllocatedBytes(self);
-        for (int i = 0; i < 40; i++) dearest(x);
-        long all = BEAN.getThreadAllocatedBytes(self) - before;
-        Due.holds("800 calls make next to nothing: " + all, all < 4096);
-        Due.end("RoomTest");
     }
 
     private static void dearest(HowDeep x) {
